@@ -2038,16 +2038,13 @@ public final class RoofGale {
         private int shortestWay(Shore shore, int from, int set) {
             int low = from;
             int high = from;
-            boolean any = false;
             for (int h = 0; h < shore.houseCount; h++) {
                 if ((set >> h & 1) == 1) {
-                    int at = shore.houses[h].at;
-                    low = any ? Math.min(low, at) : at;
-                    high = any ? Math.max(high, at) : at;
-                    any = true;
+                    low = Math.min(low, shore.houses[h].at);
+                    high = Math.max(high, shore.houses[h].at);
                 }
             }
-            return high - low + Math.min(Math.abs(from - low), Math.abs(from - high));
+            return high - low + Math.min(from - low, high - from);
         }
 
         private int minutesFor(Shore shore, int gang, int set) {
