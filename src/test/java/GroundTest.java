@@ -67,6 +67,8 @@ public final class GroundTest {
         none.tray(3, 3, 1);
         Check.fails(none, "5 ahead of 2", none.signs(3, 0), 5);
         Check.fails(none, "no houses", none.signs(3, 1), 2);
+        none.tray(3, 3, 0);
+        Check.fails(none, "nothing of an empty tray", none.signs(3, 0), 5);
     }
 
     private static RoofGale withTray(String shore, int... fell) {

@@ -62,10 +62,12 @@ public final class TrayTest {
         Check.yes(x, "60 numbers", x.tray(3, 3, 60));
         Check.tells(x, "all 0", x.read(3, 59), 0);
         x.write(3, 59, 7);
+        x.write(3, 0, 7);
         Check.no(x, "a wrong tray", x.tray(3, 3, 61), 5);
         Check.tells(x, "changes nothing", x.read(3, 59), 7);
         Check.yes(x, "again", x.tray(3, 2, 60));
         Check.tells(x, "all 0 again", x.read(3, 59), 0);
+        Check.tells(x, "from the first on", x.read(3, 0), 0);
     }
 
     private static void writeAndRead() {
