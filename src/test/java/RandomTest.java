@@ -1,26 +1,21 @@
-import java.lang.reflect.InvocationTargetException;
 import java.lang.reflect.Method;
-import java.nio.charset.StandardCharsets;
 import java.util.ArrayList;
 import java.util.Arrays;
-import java.util.Comparator;
 import java.util.List;
 import java.util.Map;
 import java.util.Random;
 
 /** Random runs of at most 512 calls, asked of the class and of the plain model alike; every run has its own seed. */
 public final class RandomTest {
-    private static final int RUNS = 700;
+    private static final int RUNS = 1200;
     private static final String[] WORDS = ("house at worth pieces weight long pegs gang hands pace helped by wind of law owed near told "
             + "hour gale dawn rest lift with when off stands loop end stop ; < > = 0 1 61 100 241 1000 12345 a b p q x abcdefghi ! A").split(" ");
 
     private final Random random;
-    private final RoofGale x = new RoofGale();
-    private final PlainModel plain = new PlainModel();
-    private final List<String> log = new ArrayList<>();
+    private final Both both = new Both();
+    private final PlainModel plain = both.plain();
     /** Few runs have all houses, gangs and winds that there may be: the model tries every order of them. */
     private final boolean full;
-    private int calls;
 
     private RandomTest(long seed) {
         random = new Random(seed);
@@ -37,10 +32,8 @@ public final class RandomTest {
     }
 
     private static List<Method> methods() {
-        List<Method> all = new ArrayList<>(Arrays.asList(RoofGale.class.getDeclaredMethods()));
-        all.removeIf(m -> !java.lang.reflect.Modifier.isPublic(m.getModifiers())
-                || List.of("feed", "shore", "years", "shared", "allOff").contains(m.getName()));
-        all.sort(Comparator.comparing(Method::getName));
+        List<Method> all = Both.methods();
+        all.removeIf(m -> List.of("feed", "shore", "years", "shared", "allOff").contains(m.getName()));
         return all;
     }
 
@@ -49,7 +42,7 @@ public final class RandomTest {
     private void run() throws ReflectiveOperationException {
         text("shore", shoreText());
         plans();
-        while (calls < (full ? 200 : 470)) {
+        while (both.asked() < (full ? 200 : 380)) {
             int dice = random.nextInt(100);
             if (dice < 3) {
                 text("shore", random.nextInt(3) == 0 ? broken(shoreText()) : shoreText());
@@ -57,32 +50,33 @@ public final class RandomTest {
             } else if (dice < 8) {
                 text("years", random.nextInt(3) == 0 ? broken(yearsText()) : yearsText());
             } else if (dice < 10) {
-                call(RoofGale.class.getMethod("shared", int.class), random.nextInt(120));
+                both.call("shared", random.nextInt(120));
             } else if (dice < 12) {
-                call(RoofGale.class.getMethod("allOff"));
+                both.call("allOff");
             } else if (dice < 20) {
-                call(RoofGale.class.getMethod("hour", int.class), 1 + random.nextInt(30));
+                both.call("hour", 1 + random.nextInt(30));
             } else {
                 Method m = METHODS.get(random.nextInt(METHODS.size()));
-                call(m, arguments(m));
+                both.call(m, arguments(m));
             }
         }
+        both.end();
     }
 
     /** The calls that are dearest to the model, while all houses stand. */
     private void plans() throws ReflectiveOperationException {
         for (int g = 0; g < plain.gangCount(); g++) {
-            call(RoofGale.class.getMethod("best", int.class, int.class), g, number('m'));
-            call(RoofGale.class.getMethod("bestSet"));
-            call(RoofGale.class.getMethod("soonest", int.class, int.class), g, random.nextBoolean() ? number('z') : (1 << plain.houseCount()) - 1);
+            both.call("best", g, number('m'));
+            both.call("bestSet");
+            both.call("soonest", g, random.nextBoolean() ? number('z') : (1 << plain.houseCount()) - 1);
             for (int k = 0; k <= plain.houseCount(); k++) {
-                call(RoofGale.class.getMethod("order", int.class), k);
+                both.call("order", k);
             }
         }
-        call(RoofGale.class.getMethod("shared", int.class), number('m'));
-        call(RoofGale.class.getMethod("allOff"));
-        call(RoofGale.class.getMethod("hour", int.class), number('m'));
-        call(RoofGale.class.getMethod("ground", int.class), number('f'));
+        both.call("shared", number('m'));
+        both.call("allOff");
+        both.call("hour", number('m'));
+        both.call("ground", number('f'));
     }
 
     /** What the arguments of a call are: g a gang, h a house, w a wind, t a tray, and so on as number() tells. */
@@ -130,47 +124,8 @@ public final class RandomTest {
     }
 
     private void text(String name, String text) throws ReflectiveOperationException {
-        byte[] bytes = text.getBytes(StandardCharsets.ISO_8859_1);
-        for (int i = 0; i < bytes.length; i += 20) {
-            Object[] five = new Object[5];
-            for (int k = 0; k < 5; k++) {
-                int four = 0;
-                for (int j = i + 4 * k; j < i + 4 * k + 4; j++) {
-                    four = four << 8 | (j < bytes.length ? bytes[j] & 255 : ' ');
-                }
-                five[k] = four;
-            }
-            call(RoofGale.class.getMethod("feed", int.class, int.class, int.class, int.class, int.class), five);
-        }
-        call(RoofGale.class.getMethod(name, int.class), random.nextInt(30) == 0 ? random.nextInt(1000) - 50 : bytes.length);
-    }
-
-    private void call(Method m, Object... arguments) throws ReflectiveOperationException {
-        calls++;
-        Object got = null;
-        try {
-            got = m.invoke(x, arguments);
-        } catch (InvocationTargetException e) {
-            System.out.println(m.getName() + Arrays.toString(arguments) + " threw " + e.getCause());
-        }
-        Object want = PlainModel.class.getMethod(m.getName(), m.getParameterTypes()).invoke(plain, arguments);
-        String what = m.getName() + Arrays.toString(arguments);
-        log.add(what);
-        same(what, String.valueOf(got), String.valueOf(want));
-        same("status behind " + what, x.status(), plain.status());
-        same("top behind " + what, x.top(), plain.top());
-        same("bottom behind " + what, x.bottom(), plain.bottom());
-        same("fault behind " + what, x.fault(0), plain.fault(0));
-        same("place behind " + what, x.fault(1), plain.fault(1));
-    }
-
-    private void same(String what, Object got, Object want) {
-        boolean equal = got.equals(want);
-        Check.due(what, equal, true);
-        if (!equal) {
-            System.out.println(what + " answered " + got + ", the model " + want + " behind " + log);
-            System.exit(1);
-        }
+        int bytes = both.feed(text);
+        both.call(name, random.nextInt(30) == 0 ? random.nextInt(1000) - 50 : bytes);
     }
 
     private int upTo(int least, int most) {
