@@ -169,7 +169,7 @@ public final class RoofGale {
         return within(gang, 0, shore.gangCount - 1);
     }
 
-    // ---- trays
+    // ---- TRAYS
 
     public boolean tray(int tray, int sort, int many) {
         if (!trays.has(tray) || !within(sort, 0, Trays.LAST_SORT)) {
@@ -767,7 +767,7 @@ public final class RoofGale {
         return nearest == NONE ? none(THERE_IS_NONE) : answer(nearest);
     }
 
-    // ---- years
+    // ---- YEARS
 
     public int live(int seed) {
         if (!within(seed, 0, LAST_SEED)) {
@@ -818,7 +818,7 @@ public final class RoofGale {
         return tellFraction(worth, many);
     }
 
-    // ---- marks
+    // ---- MARKS
 
     public int mark() {
         if (marks >= MOST_MARKS) {

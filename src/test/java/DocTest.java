@@ -5,7 +5,7 @@ import java.util.ArrayList;
 import java.util.Arrays;
 import java.util.List;
 
-/** Every sentence of the document, from its terms to its last promise, stands above a test that holds the class to it. */
+/** Every sentence of the document, from its first line to its last promise, stands above a test that holds the class to it. */
 public final class DocTest {
     public static void main(String[] args) throws IOException, ReflectiveOperationException {
         List<String> quoted = quoted();

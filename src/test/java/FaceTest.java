@@ -1,104 +1,118 @@
 import java.io.IOException;
 import java.lang.reflect.Constructor;
+import java.lang.reflect.Executable;
 import java.lang.reflect.Field;
 import java.lang.reflect.Method;
 import java.lang.reflect.Modifier;
 import java.nio.file.Files;
 import java.nio.file.Path;
 import java.util.ArrayList;
-import java.util.Arrays;
 import java.util.List;
-import java.util.Set;
-import java.util.TreeSet;
 import java.util.regex.Matcher;
 import java.util.regex.Pattern;
 
-/** The public face as the document writes it, and those rules of the language that can be seen from outside. */
+/** The public face: each row of it, and what the interface says ahead of calls, as the document writes it, and no other member. */
 public final class FaceTest {
-    private static final String FACE = "int status()|long top()|long bottom()|boolean tray(int,int,int)|boolean write(int,int,long)|long read(int,int)"
-            + "|boolean pour(int,int,int,int,int)|int feed(int,int,int,int,int)|int shore(int)|int years(int)|int fault(int)|int many(int)"
-            + "|int house(int,int)|int gang(int,int)|int wind(int,int)|int helped(int,int)|int takes(int,int)|int walk(int,int)|int next(int)"
-            + "|int lift(int,int)|boolean rest(int)|int hour(int)|int gale(int)|int dawn()|int help(int,int,int)|int falls(int)|boolean risk(int)"
-            + "|boolean loss()|boolean saves(int,int)|int dearest()|int worstWind()|int best(int,int)|int bestSet()|int soonest(int,int)|int order(int)"
-            + "|int shared(int)|int allOff()|int score(int,int,int)|int words(int,int,int)|int owed()|int riders()|int chain(int)|int quits(int,int)"
-            + "|int ground(int)|int signs(int,int)|int flown(int)|int likeliest(int)|int neighbour(int)|int live(int)|int lived(int)"
-            + "|boolean mean(int,int)|int mark()|int back()";
+    private static final String HEAD = "public final class RoofGale {";
 
     public static void main(String[] args) throws IOException {
-        face();
-        nestedClasses();
-        source();
+        List<String> document = Files.readAllLines(Path.of("../shared/DOC.md"));
+        List<String> source = Files.readAllLines(Path.of("src/main/java/RoofGale.java"));
+        List<String> face = faceOf(document);
+        Check.due("rows of the face", face.size(), 55);
+        Check.due("the class is public and final", source.contains(HEAD), true);
+        Check.due("public members as they stand: " + publicRows(source), publicRows(source).equals(face), true);
+        noOtherMember(face);
+        promises(document, face);
+        aheadOfCalls(document, source);
+        Check.due("NONE", RoofGale.NONE, -1);
         Check.end("FaceTest");
     }
 
-    private static void face() {
+    private static List<String> faceOf(List<String> document) {
+        int from = document.indexOf(HEAD) + 1;
+        return document.subList(from, from + document.subList(from, document.size()).indexOf("}")).stream().map(String::trim).toList();
+    }
+
+    /** The public rows of the class itself, without their bodies. */
+    private static List<String> publicRows(List<String> source) {
+        return source.stream().filter(line -> line.startsWith("    public ")).map(line -> line.trim().replace(" {", ";")).toList();
+    }
+
+    private static void noOtherMember(List<String> face) {
         Class<?> c = RoofGale.class;
         Check.due("public and final", c.getModifiers(), Modifier.PUBLIC | Modifier.FINAL);
-        Set<String> due = new TreeSet<>(Arrays.asList(FACE.split("\\|")));
-        Set<String> seen = new TreeSet<>();
-        for (Method m : c.getDeclaredMethods()) {
-            if (!Modifier.isPrivate(m.getModifiers())) {
-                Check.due(m + " is public alone", m.getModifiers(), Modifier.PUBLIC);
-                seen.add(signature(m));
-            }
-        }
-        Check.due("methods " + seen, seen.equals(due), true);
+        Check.due("no superclass but Object", c.getSuperclass() == Object.class, true);
+        Check.due("interfaces", c.getInterfaces().length, 0);
+        int members = 0;
         for (Field f : c.getDeclaredFields()) {
             boolean none = f.getName().equals("NONE");
-            Check.due(f + " is private", Modifier.isPrivate(f.getModifiers()), !none);
-            Check.due(f + " is final, if static", !Modifier.isStatic(f.getModifiers()) || Modifier.isFinal(f.getModifiers()), true);
+            Check.due("modifiers of " + f, f.getModifiers() & (Modifier.PUBLIC | Modifier.PRIVATE | Modifier.PROTECTED), none ? Modifier.PUBLIC : Modifier.PRIVATE);
+            members += none ? 1 : 0;
         }
-        Check.due("NONE", RoofGale.NONE, -1);
-        Constructor<?>[] constructors = c.getDeclaredConstructors();
-        Check.due("one constructor", constructors.length, 1);
-        Check.due("without parameters", constructors[0].getParameterCount(), 0);
-        Check.due("public", constructors[0].getModifiers(), Modifier.PUBLIC);
+        List<Executable> calls = new ArrayList<>(List.of(c.getDeclaredMethods()));
+        for (Constructor<?> constructor : c.getDeclaredConstructors()) {
+            calls.add(constructor);
+        }
+        for (Executable call : calls) {
+            if (!Modifier.isPrivate(call.getModifiers())) {
+                Check.due(call + " is public alone", call.getModifiers(), Modifier.PUBLIC);
+                members++;
+            }
+        }
+        Check.due("members that are not private", members, face.size());
+        noNameTwice();
     }
 
-    private static String signature(Method m) {
-        List<String> types = new ArrayList<>();
-        for (Class<?> type : m.getParameterTypes()) {
-            types.add(type.getName());
-        }
-        return m.getReturnType().getName() + " " + m.getName() + "(" + String.join(",", types) + ")";
-    }
-
-    private static void nestedClasses() {
-        Set<String> names = new TreeSet<>();
-        for (Method m : RoofGale.class.getMethods()) {
-            names.add(m.getName());
-        }
-        Class<?>[] nested = RoofGale.class.getDeclaredClasses();
-        Check.due("at most twelve classes", nested.length < 12, true);
-        List<Class<?>> all = new ArrayList<>(Arrays.asList(nested));
-        all.add(RoofGale.class);
-        for (Class<?> c : all) {
-            Check.due(c + " is static", c == RoofGale.class || Modifier.isStatic(c.getModifiers()), true);
-            long fields = Arrays.stream(c.getDeclaredFields()).filter(f -> !Modifier.isStatic(f.getModifiers())).count();
-            Check.due(c + " has at most twenty fields", fields <= 20, true);
+    private static void noNameTwice() {
+        List<Class<?>> classes = new ArrayList<>(List.of(RoofGale.class.getDeclaredClasses()));
+        classes.add(RoofGale.class);
+        for (Class<?> c : classes) {
             for (Method m : c.getDeclaredMethods()) {
-                Check.due(m + " has at most seven parameters", m.getParameterCount() <= 7, true);
-                Check.due(m + " bears no public name", !Modifier.isPublic(m.getModifiers()) && names.contains(m.getName()), false);
+                boolean named = Both.methods().stream().anyMatch(open -> open.getName().equals(m.getName()));
+                Check.due(m + " bears a public name", named, Modifier.isPublic(m.getModifiers()));
             }
         }
     }
 
-    private static void source() throws IOException {
-        String text = Files.readString(Path.of("src/main/java/RoofGale.java"));
-        String code = text.replaceAll("(?s)/\\*.*?\\*/|//[^\n]*", "");
-        String[] forbidden = {"\\bthrow\\b", "\\btry\\b", "\\bcatch\\b", "\\bsynchronized\\b", "\\bassert\\b", "->", "::", "\\bimport\\b",
-            "\\bpackage\\b", "Exact\\b", "\\bequals\\(", "\\bdouble\\b", "\\bvar\\b", "\"\\s*\\+", "\\+\\s*\""};
-        for (String word : forbidden) {
-            Matcher m = Pattern.compile(word).matcher(code);
-            Check.due("no " + word, m.find(), false);
-        }
-        List<String> lines = text.lines().toList();
-        for (int i = 0; i < lines.size(); i++) {
-            Matcher head = Pattern.compile("( +)(public|private) .*\\) \\{").matcher(lines.get(i));
-            if (head.matches()) {
-                int length = lines.subList(i, lines.size()).indexOf(head.group(1) + "}");
-                Check.due("the method in line " + (i + 1) + " is short: " + length, length <= 60, true);
+    /** A promise repeats its row of the face: both must be what the class has. */
+    private static void promises(List<String> document, List<String> face) {
+        int found = 0;
+        for (String line : document) {
+            Matcher m = Pattern.compile("`((int|long|boolean) \\w+\\(.*?\\)|RoofGale\\(\\))`: .*").matcher(line);
+            if (m.matches()) {
+                found++;
+                Check.due("the face has " + m.group(1), face.contains("public " + m.group(1) + ";"), true);
             }
         }
+        Check.due("promises", found, 54);
+    }
+
+    private static void aheadOfCalls(List<String> document, List<String> source) {
+        int found = 0;
+        for (String line : document) {
+            Matcher m = Pattern.compile("Ahead of the calls (.*) the interface says: (---- .*)\\.").matcher(line);
+            if (m.matches()) {
+                found++;
+                List<String> due = List.of(m.group(1).replace("`", "").split(", "));
+                List<String> behind = callsBehind(source, "    // " + m.group(2));
+                Check.due("calls behind " + m.group(2) + ": " + behind, behind.equals(due), true);
+            }
+        }
+        Check.due("such rows", found, 9);
+    }
+
+    /** The public calls between such a comment and the next one. */
+    private static List<String> callsBehind(List<String> source, String comment) {
+        List<String> calls = new ArrayList<>();
+        boolean behind = false;
+        for (String line : source) {
+            behind = line.startsWith("    // ----") ? line.equals(comment) : behind;
+            Matcher m = Pattern.compile("    public \\w+ (\\w+)\\(.*").matcher(line);
+            if (behind && m.matches()) {
+                calls.add(m.group(1));
+            }
+        }
+        return calls;
     }
 }

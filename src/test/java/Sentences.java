@@ -31,16 +31,22 @@ final class Sentences {
         return found;
     }
 
-    /** What the document promises, from its terms on, line by line, without headings and signatures. */
+    /** What the document says from its first line to its last promise, without headings and what FaceTest holds the class to. */
     static List<String> document() throws IOException {
-        List<String> lines = Files.readAllLines(Path.of("../shared/DOC.md"));
-        List<String> promised = new ArrayList<>();
-        for (String line : lines.subList(lines.indexOf("## Terms"), lines.indexOf("## Not promised"))) {
-            boolean aside = line.startsWith("#") || line.startsWith("```") || line.startsWith("Ahead of the calls");
+        List<String> said = new ArrayList<>();
+        boolean inFace = false;
+        for (String line : untilNotPromised()) {
+            inFace = line.startsWith("#") ? line.equals("## The public face") : inFace;
+            boolean aside = inFace || line.startsWith("#") || line.startsWith("```") || line.startsWith("Ahead of the calls");
             if (!aside && !line.isBlank()) {
-                promised.add(line.replaceFirst("^`[^`]*`: ", "").replaceFirst("^==== \\d\\. ", "").replaceAll("\\s+", " ").trim());
+                said.add(line.replaceFirst("^`[^`]*`: ", "").replaceFirst("^==== \\d\\. ", "").replaceAll("\\s+", " ").trim());
             }
         }
-        return promised;
+        return said;
+    }
+
+    private static List<String> untilNotPromised() throws IOException {
+        List<String> lines = Files.readAllLines(Path.of("../shared/DOC.md"));
+        return lines.subList(0, lines.indexOf("## Not promised"));
     }
 }
